@@ -879,6 +879,7 @@ public final class BetweenBoth {
         final int[] weight = new int[MOST];
         int count;
         private final int[] tried = new int[SOUGHT_MOST];
+        // all 0 between searches: what is added is taken off again
         private final int[] total = new int[ROW];
         // what sums from s on can add at least and at most, each with weight 1 at most
         private final int[] low = new int[(SOUGHT_MOST + 1) * ROW];
@@ -954,9 +955,6 @@ public final class BetweenBoth {
         /** Only for 1 to 6 sums; answers the greatest weight, or NONE. */
         int findLeastWeights() {
             boundWhatFollows();
-            for (int what = 0; what < ROW; what++) {
-                total[what] = 0;
-            }
             for (int most = 1; most <= WEIGHT_SOUGHT_MOST; most++) {
                 if (findFrom(0, most)) {
                     System.arraycopy(tried, 0, weight, 0, count);
