@@ -753,10 +753,10 @@ public final class ModelTest {
 
         void seekWeights() {
             due("seekWeights()", x.seekWeights(), model.seekWeights());
-            for (int q = 0; q < 10 && !wrong; q++) {
+            for (int q = 0; q < 10 && open(); q++) {
                 due("weighed(" + q / 5 + ", " + q % 5 + ")", x.weighed(q / 5, q % 5), model.weighed(q / 5, q % 5));
             }
-            for (int s = 0; s < model.sums.size() && !wrong; s++) {
+            for (int s = 0; s < model.sums.size() && open(); s++) {
                 int was = model.weights.get(s);
                 due("weigh(" + s + ", " + was + ")", x.weigh(s, was), model.weigh(s, was));
             }
@@ -767,8 +767,8 @@ public final class ModelTest {
             while (open()) {
                 one();
                 if (chance.nextInt(100) == 0) tell();
-                if (chance.nextInt(150) == 0) feed(near(0, 255));
-                if (model.text.length() > 0 && chance.nextInt(5) == 0) due("parties()", x.parties(), model.parties());
+                if (open() && chance.nextInt(150) == 0) feed(near(0, 255));
+                if (open() && model.text.length() > 0 && chance.nextInt(5) == 0) due("parties()", x.parties(), model.parties());
             }
         }
     }

@@ -17,7 +17,7 @@ public final class RoomTest {
         for (int n = 0; n < 6; n++) {
             called += x.sum(n & 1, n - 3, 1 - n % 3, n % 2, 2 * (n % 2) - 1, n - 4);
         }
-        for (int n = 0; n < 10; n++) {
+        for (int n = 0; n < 7; n++) {
             called += x.seek() + x.seekWeights() + x.between(n % 3) + x.needless() + x.keep(n % 2) + x.undo();
             for (int what = 0; what <= 10; what++) {
                 called += x.told(what) + x.about(n % 3, 20 + n, what % 3) + x.step(n, what) + x.sums(what);
