@@ -1005,6 +1005,11 @@ public final class EdgesTest {
         is(512, "told", 7);
     }
 
+    static void t2_leastIsTheFirstClauseAlone() {
+        of("a0 0;b1 0;b0 1;");
+        is(1, "told", 7);
+    }
+
     static void t2_leastIsTheLeastOfTwoEmptyClauses() {
         of("a1 0;b0 0;a0 0;");
         is(2, "told", 7);
@@ -1092,6 +1097,31 @@ public final class EdgesTest {
         // 0 with 1 by 1 would have 0 and 2; clause 2 has 0
         of("a1 2;a6 0;a1 0;");
         is(0, "seek");
+    }
+
+    static void t2_soughtMakesNoneThatTheFirstOrLastStepCovers() {
+        of("a1 0;a1 2;a2 0;");
+        is(0, "seek");
+        of("a1 2;a2 0;b4 0;a1 0;");
+        is(0, "seek");
+    }
+
+    static void t2_soughtKnowsNothingOfEarlierTexts() {
+        of(TWO + "a2 0;b0 2;");
+        is(0, "parties");
+        for (int n = 1; n <= 2; n++) {
+            feedAll("a1 0;");
+            is(1, "parties");
+            is(0, "seek");
+        }
+    }
+
+    static void t2_soughtKnowsNothingOfUndoneSteps() {
+        of("a1 2;a2 0;b4 0;");
+        is(3, "resolve", 1, 0, 1);
+        is(0, "undo");
+        is(1, "seek");
+        is(1, "step", 3, 0);
     }
 
     static void t2_soughtMakesOneWhereAnotherHasMoreLetters() {
@@ -1289,8 +1319,8 @@ public final class EdgesTest {
         is(8, "told", 10);
         for (int left = 7; left >= 0; left--) {
             is(left, "undo");
+            is(2 + left, "told", 1);
         }
-        is(2, "told", 1);
         is(NOT, "undo");
     }
 
@@ -1300,8 +1330,18 @@ public final class EdgesTest {
         is(8, "told", 10);
         for (int left = 7; left >= 0; left--) {
             is(left, "undo");
+            is(3 + left, "told", 1);
         }
-        is(3, "told", 1);
+        is(NOT, "undo");
+    }
+
+    static void t3_ofThirtyTheLatestEightAreKnown() {
+        of(TWO);
+        again(30, 2, "resolve", 0, 1, 0);
+        for (int left = 7; left >= 0; left--) {
+            is(left, "undo");
+            is(24 + left, "told", 1);
+        }
         is(NOT, "undo");
     }
 
@@ -1697,6 +1737,18 @@ public final class EdgesTest {
         is(1, "colour", 7);
         of("a0 128;b128 0;");
         is(2, "colour", 7);
+    }
+
+    static void p06_ofTheLatestTextAlone() {
+        of("a255 0;b255 0;");
+        for (int n = 1; n <= 2; n++) {
+            feedAll("a1 0;b2 0;");
+            is(2, "parties");
+            is(0, "colour", 0);
+            is(1, "colour", 1);
+            is(NONE, "colour", 2);
+            is(0, "told", 3);
+        }
     }
 
     static void p06_byClausesNotBySteps() {
@@ -2137,6 +2189,24 @@ public final class EdgesTest {
         is(1, "about", 2, 1, 0);
     }
 
+    static void p13_noOtherStepIsCounted() {
+        // both are read one way round, then the other
+        of("a2 0;a1 0;b3 0;");
+        for (int n = 1; n <= 2; n++) {
+            aboutIs(0, 2, 256, 0, 0);
+            aboutIs(0, 1, 128, 1, 1);
+            aboutIs(0, 0, 128, 2, 1);
+        }
+    }
+
+    static void p13_askedAgainItIsTheSame() {
+        of("a9 0;a18 0;b32 1;b0 34;b0 24;r0 2 0;r1 3 1;r5 6 5;");
+        for (int n = 1; n <= 3; n++) {
+            aboutIs(0, 7, 144, 27, 6);
+            aboutIs(0, 0, 192, 9, 2);
+        }
+    }
+
     // ---- Promise 14
 
     static void p14_aSystemTooSmallOrTooLarge() {
@@ -2254,6 +2324,28 @@ public final class EdgesTest {
         is(0, "saysMore", 1, 1, 2);
     }
 
+    static void p15_theyDifferInTheLowestWorldsAlone() {
+        // 7 or not 6; 7
+        of("b0 192;a128 64;r1 0 7;");
+        is(0, "saysMore", 2, 0, 1);
+        is(1, "saysMore", 2, 1, 0);
+    }
+
+    static void p15_theyDifferInTheHighestWorldsAlone() {
+        // 6 or not 7; not 7
+        of("b192 0;a64 128;r0 1 7;");
+        is(0, "saysMore", 2, 0, 1);
+        is(1, "saysMore", 2, 1, 0);
+    }
+
+    static void p15_noOtherStepIsLookedAt() {
+        of("a1 0;b1 0;");
+        is(0, "saysMore", 1, 0, 2);
+        is(1, "saysMore", 0, 1, 2);
+        is(1, "saysMore", 0, 2, 1);
+        is(1, "saysMore", 0, 1, 0);
+    }
+
     // ---- Promise 16
 
     static void p16_noEmptyStep() {
@@ -2283,6 +2375,18 @@ public final class EdgesTest {
     static void p16_stepsAheadThatItWasNotMadeOf() {
         of("a3 0;b0 1;b0 2;r0 1 0;r0 2 1;r3 2 1;");
         is(1, "needless");
+    }
+
+    static void p16_stepsOfWhichBothItsHalvesWereMade() {
+        of(SMALL + "r1 0 1;r2 3 2;r4 5 0;");
+        is(0, "needless");
+    }
+
+    static void p16_oneThatComesTwiceIsNeededOnce() {
+        // STEP 4 is a half of the EMPTY one, and its other half was made of it, too
+        of("a1 0;b2 1;b4 2;b0 6;r0 1 0;r4 2 1;r5 3 2;r4 6 1;");
+        is(7, "told", 2);
+        is(0, "needless");
     }
 
     static void p16_allBehindAnEmptyClause() {
@@ -2613,6 +2717,48 @@ public final class EdgesTest {
         weightsAre(6, 6, 6, 6, 0, 5);
     }
 
+    static void p21_theLastSumMakesUpForTheFirst() {
+        for (int place = 1; place <= 4; place++) {
+            for (int sign = -1; sign <= 1; sign += 2) {
+                fresh();
+                int[] n = {0, 0, 0, 0, 0, 1};
+                n[place] = sign;
+                is(0, "sum", n);
+                for (int s = 1; s <= 4; s++) {
+                    is(s, "sum", 1, 0, 0, 0, 0, 0);
+                }
+                n[place] = -sign;
+                n[5] = -2;
+                is(5, "sum", n);
+                is(1, "seekWeights");
+                weightsAre(1, 0, 0, 0, 0, 1);
+            }
+        }
+    }
+
+    static void p21_sumsThatAreGoneWeighNothing() {
+        is(0, "sum", 0, 1, 0, 0, 0, 0);
+        is(1, "sum", 1, -1, 0, 0, 0, 0);
+        is(2, "sum", 1, 0, 0, 0, 0, -1);
+        is(1, "seekWeights");
+        is(3, "clear");
+        is(0, "sum", 0, 1, 0, 0, 0, 0);
+        is(1, "sum", 1, -1, 0, 0, 0, 0);
+        is(NONE, "seekWeights");
+        weightsAre(0, 0);
+        is(2, "clear");
+        is(0, "sum", 0, -1, 0, 0, 0, -1);
+        is(NONE, "seekWeights");
+    }
+
+    static void p21_soughtAgainItIsTheSame() {
+        twoSums(5, -6);
+        for (int n = 1; n <= 3; n++) {
+            is(6, "seekWeights");
+            weightsAre(6, 5);
+        }
+    }
+
     static void p21_theGreatestNumbers() {
         is(0, "sum", 0, 9, 9, 9, 9, 99);
         is(1, "sum", 1, -9, -9, -9, -9, -99);
@@ -2809,6 +2955,22 @@ public final class EdgesTest {
         is(30, "seek");
         is(10, "goBack", 0);
         is(30, "seek");
+    }
+
+    static void p24_stepsAreAsItKeptThemThoughOthersHadTheirNumbers() {
+        of("a1 0;b2 1;b4 1;");
+        is(3, "keep", 0);
+        is(3, "resolve", 0, 1, 0);
+        is(4, "resolve", 0, 2, 0);
+        is(5, "keep", 1);
+        is(3, "goBack", 0);
+        is(3, "resolve", 0, 2, 0);
+        is(4, "resolve", 0, 1, 0);
+        is(5, "goBack", 1);
+        is(2, "step", 3, 0);
+        is(1, "step", 3, 4);
+        is(4, "step", 4, 0);
+        is(2, "step", 4, 4);
     }
 
     static void p24_againAndAgain() {
