@@ -956,7 +956,7 @@ public final class BetweenBoth {
         int findLeastWeights() {
             boundWhatFollows();
             for (int most = 1; most <= WEIGHT_SOUGHT_MOST; most++) {
-                if (findFrom(0, most)) {
+                if (findFrom(this, 0, most)) {
                     System.arraycopy(tried, 0, weight, 0, count);
                     // with less at most there was none: so one of them has it
                     return most;
@@ -978,18 +978,18 @@ public final class BetweenBoth {
         }
 
         /** Weights of sum s and on, the least first; s is the depth, 6 at most. */
-        private boolean findFrom(int s, int most) {
-            if (!canStillRefute(s, most)) {
+        private static boolean findFrom(Sums sums, int s, int most) {
+            if (!sums.canStillRefute(s, most)) {
                 return false;
             }
-            if (s >= count) {
+            if (s >= sums.count) {
                 return true;
             }
             for (int w = 0; w <= most; w++) {
-                tried[s] = w;
-                addToTotal(s, w);
-                boolean found = findFrom(s + 1, most);
-                addToTotal(s, -w);
+                sums.tried[s] = w;
+                sums.addToTotal(s, w);
+                boolean found = findFrom(sums, s + 1, most);
+                sums.addToTotal(s, -w);
                 if (found) {
                     return true;
                 }

@@ -60,11 +60,11 @@ public final class LanguageTest {
             expect(false, "the word " + word.group() + " stands in the code");
         }
         expect(!code.contains("->") && !code.contains("::"), "a lambda or a method reference stands in the code");
-        lookAtLengths(source.split("\n"));
+        lookAtMethods(code.split("\n"));
     }
 
     /** A method ends at the first brace that is indented as its own first line. */
-    private static void lookAtLengths(String[] lines) {
+    private static void lookAtMethods(String[] lines) {
         for (int first = 0; first < lines.length; first++) {
             if (lines[first].matches(" +[a-zA-Z][^=]*\\) \\{") && !lines[first].matches(" *(if|for|while|switch)\\b.*")) {
                 String end = lines[first].replaceAll("[^ ].*", "") + "}";
@@ -73,7 +73,16 @@ public final class LanguageTest {
                     last++;
                 }
                 expect(last - first < 60, "a method is too long: " + lines[first]);
+                lookAtRecursion(lines, first, last);
             }
+        }
+    }
+
+    private static void lookAtRecursion(String[] lines, int first, int last) {
+        String name = lines[first].replaceAll("\\(.*", "").replaceAll(".* ", "");
+        for (int line = first + 1; line < last && line < lines.length; line++) {
+            boolean callsItself = lines[line].matches(".*\\b" + name + "\\(.*");
+            expect(!callsItself || lines[first].contains("private static "), name + " calls itself and is not private static");
         }
     }
 
